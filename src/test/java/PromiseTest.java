@@ -1,4 +1,6 @@
+import java.util.ArrayList;
 import java.util.Arrays;
+import java.util.List;
 
 /** Promise by promise: ordinary inputs, edges, wrong inputs, and that what is refused changes nothing. */
 public final class PromiseTest {
@@ -61,7 +63,7 @@ public final class PromiseTest {
 
     private static String line() {
         return Arrays.stream(new Throwable().getStackTrace())
-                .filter(e -> !e.getMethodName().matches("line|is|rowIs|throwsIt|throwsForAll|refused|counts|isText"))
+                .filter(e -> !e.getMethodName().matches("line|is|rowIs|throwsIt|throwsForAll|refused|counts|asks"))
                 .findFirst().map(StackTraceElement::toString).orElse("?");
     }
 
@@ -300,6 +302,13 @@ public final class PromiseTest {
 
     private static void putOthers(Signproduct full) {
         promise = 18;
+        Signproduct nearly = with(many("a", 59), many("a", 59));
+        counts(nearly, 60, y -> y.putRank(0, 0, 9));
+        promise = 19;
+        counts(nearly, 60, y -> y.putDigit(1, 9, 10));
+        rowIs(nearly, 0, many("a", 59) + "9");
+        rowIs(nearly, 1, many("a", 59) + "9");
+        promise = 18;
         Signproduct x = with("", "x");
         counts(x, 2, y -> y.putRank(1, 3, 5));
         counts(x, 3, y -> y.putRank(1, 4, 55));
@@ -487,6 +496,7 @@ public final class PromiseTest {
         counts(x, 2, y -> y.smalls(1));
         rowIs(x, 1, "azaz@[`{09 \t");
         counts(x, 0, y -> y.smalls(1));
+        counts(with("ZaB"), 2, y -> y.smalls(0));
         throwsForAll(x, WRONG_ROWS, INDEX, (y, row) -> y.smalls(row));
         promise = 31;
         counts(x, 4, y -> y.turn(2));
@@ -553,6 +563,10 @@ public final class PromiseTest {
         refused(with("12147483648"), y -> y.numberOf(0, 1, 10, 10));
         asks(with("12147483647"), 2147483647, y -> y.numberOf(0, 1, 10, 10));
         asks(with(many("1", 60)), 1, y -> y.numberOf(0, 59, 1, 10));
+        Signproduct dropped = with("1234");
+        dropped.drop(0, 2);
+        refused(dropped, y -> y.numberOf(0, 1, 2, 10));
+        refused(dropped, y -> y.numberOf(0, 2, 1, 10));
         throwsForAll(x, new int[] {7, -1, Integer.MIN_VALUE, Integer.MAX_VALUE}, INDEX, (y, p) -> y.numberOf(0, p, 61, 1));
         throwsIt(x, INDEX, y -> y.numberOf(1, 1, 0, 10));
         throwsForAll(x, WRONG_ROWS, INDEX, (y, row) -> y.numberOf(row, 0, 61, 1));
@@ -825,36 +839,42 @@ public final class PromiseTest {
         asks(with(many("a", 30), many("z", 31), "zik0zj", "zik0zk"), true, Signproduct::isSound);
         asks(with(many("a ", 30), "0", "\0\u007f\t", "007"), true, Signproduct::isSound);
         promise = 56;
-        // The four answers of ../shared/tests are there; here that each part of the state counts.
-        long d = with("ab").digest();
-        asks(with("ab"), d, Signproduct::digest);
-        Call[] changes = {Signproduct::knock, y -> y.put(1, 97), y -> y.swap(2, 3), y -> y.turnAt(0, 0)};
-        for (Call change : changes) {
-            Signproduct other = with("ab");
-            change.on(other);
-            is(other.digest() != d, true);
-        }
-        digestOfNothing();
+        digested(new Signproduct());
+        digested(with("101", "99", "1fF", "zik0zj"));
+        digested(with("zik0zk", "12ab3 \t4..c", many("a ", 30), many("9", 60)));
+        digested(with("b", "a", "\0\u007f", "b"));
+        Signproduct used = with("ab", many("=", 12), "", "7");
+        used.knock();
+        used.swap(2, 0);
+        digested(used);
     }
 
-    /** The checksum of a new object, put together as the document has it. */
-    private static void digestOfNothing() {
-        Signproduct x = new Signproduct();
-        long d = 7838;
-        for (int house = 0; house < 3; house++) {
-            d *= 31;
-        }
+    /** The checksum put together from the answers of the other calls, in the document's order. */
+    private static void digested(Signproduct x) {
+        List<Integer> all = new ArrayList<>(List.of(x.house(0), x.house(1), x.house(2)));
         for (int row = 0; row < 4; row++) {
-            int[] all = {0, 0, 0, 0, 0, 0, REFUSED, 0, REFUSED, REFUSED, REFUSED, REFUSED, 0, 0};
-            for (int v : all) {
-                d = d * 31 + v;
+            all.add(x.size(row));
+            for (int place = 0; place < x.size(row); place++) {
+                all.add(x.sign(row, place));
             }
+            for (int kind = 0; kind < 5; kind++) {
+                all.add(x.ofKind(row, kind));
+            }
+            all.addAll(List.of(x.leastRadix(row), x.sumOf(row), x.number(row, 2), x.number(row, 10),
+                    x.number(row, 16), x.number(row, 36), x.pieces(row)));
+            for (char c : x.sorts(row).toCharArray()) {
+                all.add((int) c);
+            }
+            all.add(x.compare(row, (row + 1) % 4));
         }
         for (int sign = 0; sign < 128; sign++) {
-            for (int v : new int[] {x.kind(sign), x.rankOf(sign), x.value(sign), x.turned(sign)}) {
-                d = d * 31 + v;
-            }
+            all.addAll(List.of(x.kind(sign), x.rankOf(sign), x.value(sign), x.turned(sign)));
         }
-        asks(x, d * 31 + 1, Signproduct::digest);
+        all.add(x.isSound() ? 1 : 0);
+        long d = 7838;
+        for (int v : all) {
+            d = d * 31 + v;
+        }
+        asks(x, d, Signproduct::digest);
     }
 }
