@@ -41,8 +41,8 @@ public final class EdgeTest {
     };
     private static final int[] MANY_OF_KINDS = {10, 26, 26, 10, 56};
 
-    /** What may have been behind the end of a row before: nothing, or one of these. */
-    private static final char[] GONE = {0, ' ', 'a', 'A', '1'};
+    /** What has been behind the end of each row before: nothing, or one sign, for row after row. */
+    private static final String[] GONE = {"", "    ", "aaaa", "AAAA", "1111", " aA1", "1A a"};
 
     private static final int[] NO_ROWS = beyond(0, 3);
     private static final int[] NO_SIGNS = beyond(0, 127);
@@ -140,16 +140,16 @@ public final class EdgeTest {
     }
 
     /** Likewise, but behind the end of each row there has been another sign, which must not count; and one knocked. */
-    private static Signproduct made(char gone, String... rows) {
+    private static Signproduct madeAfter(String gone, String... rows) {
         Signproduct x = made(rows);
-        if (gone != 0) {
-            x.knock();
-        }
-        for (int row = 0; gone != 0 && row < 4; row++) {
+        for (int row = 0; row < gone.length(); row++) {
             if (row >= rows.length || rows[row].length() < 60) {
-                x.put(row, gone);
+                x.put(row, gone.charAt(row));
                 x.drop(row, 1);
             }
+        }
+        if (!gone.isEmpty()) {
+            x.knock();
         }
         return x;
     }
@@ -179,17 +179,17 @@ public final class EdgeTest {
 
     /** The call answers what is due, and nothing is other by it. */
     private static void asked(String[] rows, Object due, Call call) {
-        for (char gone : GONE) {
-            Signproduct x = made(gone, rows);
+        for (String gone : GONE) {
+            Signproduct x = madeAfter(gone, rows);
             is(call.on(x), due);
-            is(stateOf(x), stateOf(made(gone, rows)));
+            is(stateOf(x), stateOf(madeAfter(gone, rows)));
         }
     }
 
     /** The call answers what is due, the rows are those that are named last, and house(0) is one more. */
     private static void told(String[] rows, Object due, Call call, String... after) {
-        for (char gone : GONE) {
-            Signproduct x = made(gone, rows);
+        for (String gone : GONE) {
+            Signproduct x = madeAfter(gone, rows);
             int before = x.house(0);
             int knocks = x.house(2);
             is(call.on(x), due);
@@ -206,10 +206,10 @@ public final class EdgeTest {
 
     /** The call throws just that, and nothing is other by it, not even what house(0) counts. */
     private static void thrown(String[] rows, Class<?> due, Call call) {
-        for (char gone : GONE) {
-            Signproduct x = made(gone, rows);
+        for (String gone : GONE) {
+            Signproduct x = madeAfter(gone, rows);
             is(outcome(x, call), due);
-            is(stateOf(x), stateOf(made(gone, rows)));
+            is(stateOf(x), stateOf(madeAfter(gone, rows)));
         }
     }
 
